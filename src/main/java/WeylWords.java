@@ -432,6 +432,38 @@ public final class WeylWords {
      * degree, and within a degree by ascending j: the sequence in which digest() wants them.
      */
     private static final class Operator {
+        /** The exponents of x and d by place, a line for each degree. */
+        static final int[] X_AT = {
+            0,
+            1, 0,
+            2, 1, 0,
+            3, 2, 1, 0,
+            4, 3, 2, 1, 0,
+            5, 4, 3, 2, 1, 0,
+            6, 5, 4, 3, 2, 1, 0,
+            7, 6, 5, 4, 3, 2, 1, 0,
+            8, 7, 6, 5, 4, 3, 2, 1, 0,
+            9, 8, 7, 6, 5, 4, 3, 2, 1, 0,
+            10, 9, 8, 7, 6, 5, 4, 3, 2, 1, 0,
+            11, 10, 9, 8, 7, 6, 5, 4, 3, 2, 1, 0,
+            12, 11, 10, 9, 8, 7, 6, 5, 4, 3, 2, 1, 0
+        };
+        static final int[] D_AT = {
+            0,
+            0, 1,
+            0, 1, 2,
+            0, 1, 2, 3,
+            0, 1, 2, 3, 4,
+            0, 1, 2, 3, 4, 5,
+            0, 1, 2, 3, 4, 5, 6,
+            0, 1, 2, 3, 4, 5, 6, 7,
+            0, 1, 2, 3, 4, 5, 6, 7, 8,
+            0, 1, 2, 3, 4, 5, 6, 7, 8, 9,
+            0, 1, 2, 3, 4, 5, 6, 7, 8, 9, 10,
+            0, 1, 2, 3, 4, 5, 6, 7, 8, 9, 10, 11,
+            0, 1, 2, 3, 4, 5, 6, 7, 8, 9, 10, 11, 12
+        };
+
         final int[] cells = new int[WORDS];
 
         static boolean isWord(int i, int j) {
@@ -448,20 +480,7 @@ public final class WeylWords {
         }
 
         static int degreeAt(int place) {
-            for (int n = 0; n < TOP_DEGREE; n++) {
-                if (place < firstPlace(n + 1)) {
-                    return n;
-                }
-            }
-            return TOP_DEGREE;
-        }
-
-        static int dAt(int place) {
-            return place - firstPlace(degreeAt(place));
-        }
-
-        static int xAt(int place) {
-            return degreeAt(place) - dAt(place);
+            return X_AT[place] + D_AT[place];
         }
 
         /** The place of a word by its rank in its degree; rank 0 is the greatest word of the degree. */
@@ -471,9 +490,7 @@ public final class WeylWords {
 
         /** A number that grows with the word at a place, for comparing words. */
         static int height(int order, int place) {
-            int degree = degreeAt(place);
-            int within = place - firstPlace(degree);
-            return firstPlace(degree) + (order == 0 ? within : degree - within);
+            return firstPlace(degreeAt(place)) + (order == 0 ? D_AT[place] : X_AT[place]);
         }
 
         int coefficient(int i, int j) {
@@ -566,9 +583,9 @@ public final class WeylWords {
                 case 1:
                     return degreeAt(lead);
                 case 6:
-                    return xAt(lead);
+                    return X_AT[lead];
                 case 7:
-                    return dAt(lead);
+                    return D_AT[lead];
                 case 8:
                     return Algebra.balanced(cells[lead]);
                 default:
@@ -655,18 +672,12 @@ public final class WeylWords {
 
     /** Numbers modulo the prime, and products of operators. */
     private static final class Algebra {
-        private final int[] xs = new int[WORDS];
-        private final int[] ds = new int[WORDS];
         private final int[][] choose = new int[TOP_DEGREE + 1][TOP_DEGREE + 1];
         /** falling[n][k] is n (n - 1) ... (n - k + 1); the powers of polynomials need it up to 30. */
         final int[][] falling = new int[TOP_POWER + 1][TOP_DEGREE + 1];
         private final Operator spare = new Operator();
 
         Algebra() {
-            for (int place = 0; place < WORDS; place++) {
-                xs[place] = Operator.xAt(place);
-                ds[place] = Operator.dAt(place);
-            }
             for (int n = 0; n <= TOP_DEGREE; n++) {
                 choose[n][0] = 1;
                 for (int k = 1; k <= n; k++) {
@@ -722,31 +733,22 @@ public final class WeylWords {
             }
         }
 
-        /** Adds factor * the word at a place * right, whose extent the caller knows already. */
+        /** Adds factor * the word (p, q) at a place * right, whose extent the caller knows already. */
         void addWordProduct(Operator target, int factor, int place, Operator right, int extent) {
-            int limit = Math.min(extent, WORDS);
-            for (int at = 0; at < limit; at++) {
-                int cell = right.cells[at];
-                if (cell != 0) {
-                    addWords(target, factor * cell % PRIME, place, at);
+            int p = Operator.X_AT[place];
+            int q = Operator.D_AT[place];
+            for (int at = 0; at < extent; at++) {
+                int a = Operator.X_AT[at];
+                int j = q + Operator.D_AT[at];
+                int coefficient = factor * right.cells[at] % PRIME;
+                // no caller lets the degree be too great; the row would have no place for it
+                int most = coefficient == 0 || p + a + j > TOP_DEGREE ? -1 : Math.min(q, a);
+                for (int k = 0; k <= most; k++) {
+                    int degree = p + a + j - 2 * k;
+                    int to = degree * (degree + 1) / 2 + j - k;
+                    int share = coefficient * (choose[q][k] * falling[a][k] % PRIME) % PRIME;
+                    target.cells[to] = (target.cells[to] + share) % PRIME;
                 }
-            }
-        }
-
-        /** Adds factor * (p, q) * (a, b), where d^q goes past x^a. */
-        private void addWords(Operator target, int factor, int left, int right) {
-            int q = ds[left];
-            int a = xs[right];
-            int degree = xs[left] + q + a + ds[right];
-            if (degree > TOP_DEGREE) {
-                return; // no caller lets it come to this; the row has no place for it
-            }
-            int j = q + ds[right];
-            int most = Math.min(q, a);
-            for (int k = 0; k <= most; k++) {
-                int share = factor * (choose[q][k] * falling[a][k] % PRIME) % PRIME;
-                int place = Operator.firstPlace(degree - 2 * k) + j - k;
-                target.cells[place] = (target.cells[place] + share) % PRIME;
             }
         }
 
@@ -764,14 +766,13 @@ public final class WeylWords {
         /** Sets a target other than the source to the adjoint of the source. */
         void adjoin(Operator target, Operator source) {
             target.makeZero();
-            for (int place = 0; place < WORDS; place++) {
-                int cell = source.cells[place];
-                if (cell != 0) {
-                    int i = xs[place];
-                    int j = ds[place];
-                    int factor = j % 2 == 0 ? cell : PRIME - cell;
-                    addWords(target, factor, Operator.placeOf(0, j), Operator.placeOf(i, 0));
+            for (int j = 0; j <= TOP_DEGREE; j++) {
+                spare.makeZero();
+                for (int i = 0; i + j <= TOP_DEGREE; i++) {
+                    spare.setCoefficient(i, 0, source.coefficient(i, j));
                 }
+                int sign = j % 2 == 0 ? 1 : PRIME - 1;
+                addWordProduct(target, sign, Operator.placeOf(0, j), spare, spare.extent());
             }
         }
     }
@@ -802,8 +803,8 @@ public final class WeylWords {
                 return;
             }
             divisors[count] = divisor;
-            leadXs[count] = Operator.xAt(lead);
-            leadDs[count] = Operator.dAt(lead);
+            leadXs[count] = Operator.X_AT[lead];
+            leadDs[count] = Operator.D_AT[lead];
             inverses[count] = Algebra.inverse(divisor.cells[lead]);
             extents[count] = divisor.extent();
             count++;
@@ -825,8 +826,8 @@ public final class WeylWords {
         }
 
         private void cancel(Operator target, int place) {
-            int i = Operator.xAt(place);
-            int j = Operator.dAt(place);
+            int i = Operator.X_AT[place];
+            int j = Operator.D_AT[place];
             for (int k = 0; k < count; k++) {
                 if (leadXs[k] <= i && leadDs[k] <= j) {
                     int factor = (PRIME - target.cells[place]) * inverses[k] % PRIME;
@@ -895,8 +896,8 @@ public final class WeylWords {
                 return;
             }
             parts[count].copyFrom(part);
-            leadXs[count] = Operator.xAt(lead);
-            leadDs[count] = Operator.dAt(lead);
+            leadXs[count] = Operator.X_AT[lead];
+            leadDs[count] = Operator.D_AT[lead];
             count++;
         }
 
@@ -999,8 +1000,8 @@ public final class WeylWords {
                 return;
             }
             row.scale(Algebra.inverse(row.cells[lead]));
-            int i = Operator.xAt(lead);
-            int j = Operator.dAt(lead);
+            int i = Operator.X_AT[lead];
+            int j = Operator.D_AT[lead];
             for (int k = kept - 1; k >= 0; k--) {
                 if (i <= leadXs[k] && j <= leadDs[k]) {
                     dismiss(k);
@@ -1138,8 +1139,8 @@ public final class WeylWords {
         boolean fits(Operator operator, int[] polynomial) {
             int top = degree(polynomial);
             for (int place = 0; place < WORDS; place++) {
-                int j = Operator.dAt(place);
-                if (operator.cells[place] != 0 && j <= top && top - j + Operator.xAt(place) > TOP_POWER) {
+                int j = Operator.D_AT[place];
+                if (operator.cells[place] != 0 && j <= top && top - j + Operator.X_AT[place] > TOP_POWER) {
                     return false;
                 }
             }
@@ -1444,10 +1445,7 @@ public final class WeylWords {
             }
             at++;
             peek();
-            return raiseFactor(readNumber(2));
-        }
-
-        private boolean raiseFactor(int exponent) {
+            int exponent = readNumber(2);
             if (!Algebra.powerFits(factor, exponent)) {
                 return false;
             }
@@ -1511,8 +1509,8 @@ public final class WeylWords {
             if (hasNumber) {
                 writeNumber(size);
             }
-            int i = Operator.xAt(place);
-            int j = Operator.dAt(place);
+            int i = Operator.X_AT[place];
+            int j = Operator.D_AT[place];
             writeLetter('x', i, hasNumber);
             writeLetter('d', j, hasNumber || i > 0);
         }
