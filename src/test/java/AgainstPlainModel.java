@@ -164,10 +164,19 @@ public final class AgainstPlainModel {
         private void properIdeal() {
             int s = random.nextInt(6);
             int t = (s + 1 + random.nextInt(5)) % 6;
-            int way = random.nextInt(3);
+            int way = random.nextInt(4);
             if (way == 0) {
                 graded(s);
                 graded(t);
+            } else if (way == 3) {
+                // x d + n and x^n have a derivative of the delta function in common
+                int n = 1 + random.nextInt(3);
+                sparse(s, 0);
+                sparse(t, 0);
+                queue.add(new int[] {0, s, 1, 1, 1});
+                queue.add(new int[] {0, s, 0, 0, n});
+                queue.add(new int[] {0, t, n, 0, 1});
+                queue.add(new int[] {2, t, t, number(), s, number()});
             } else if (way == 1) {
                 int f = random.nextInt(2);
                 queue.add(new int[] {2, s, s, 0, s, 0});

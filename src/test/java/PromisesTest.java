@@ -436,6 +436,8 @@ public final class PromisesTest {
         due("kernel of 0 to 0", w.kernel(4, 0), 1);
         due("kernel of x^6 d^6 to 15", w.kernel(5, 15), 6);
         due("nothing is altered", w.digest(), before);
+        due("kernel of x^12 to 15", with("x^12").kernel(0, 15), 0);
+        due("kernel of x^11 d - 15 x^10 to 15", with("x^11*d-15*x^10").kernel(0, 15), 1);
         error(w, "kernel(6, 0)", x -> x.kernel(6, 0), BAD);
         error(w, "kernel(-1, 0)", x -> x.kernel(-1, 0), BAD);
         error(w, "kernel(0, 16)", x -> x.kernel(0, 16), BAD);
@@ -564,6 +566,11 @@ public final class PromisesTest {
         due("d^3 alone", t.based(3, 1, 0, 3), 1);
         due("d^3 alone", t.based(3, 1, 1, 1), 0);
         due("d^3 alone", t.based(3, 1, 0, 0), 0);
+        WeylWords r = with("x^3+x*d+3", "x*d+3");
+        due("basis(3)", r.basis(3), 2);
+        due("x^3 alone", r.based(3, 1, 3, 0), 1);
+        due("x^3 alone", r.based(3, 1, 1, 1), 0);
+        due("x^3 alone", r.based(3, 1, 0, 0), 0);
     }
 
     private static void stairs() {
