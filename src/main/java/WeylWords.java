@@ -1529,11 +1529,12 @@ public final class WeylWords {
             }
         }
 
+        /** Writes a number from 1 to 9999. */
         private void writeNumber(int number) {
             boolean begun = false;
             for (int unit = 1000; unit > 0; unit /= 10) {
                 int digit = number / unit % 10;
-                begun = begun || digit > 0 || unit == 1;
+                begun = begun || digit > 0;
                 if (begun) {
                     write('0' + digit);
                 }

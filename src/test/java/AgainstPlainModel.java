@@ -145,6 +145,10 @@ public final class AgainstPlainModel {
                 typeText();
                 return queue.remove(0);
             }
+            if (roll == 14) {
+                denseKernel();
+                return queue.remove(0);
+            }
             if (roll < 18 && kind < 4) {
                 properIdeal();
                 return queue.remove(0);
@@ -158,6 +162,25 @@ public final class AgainstPlainModel {
                 return spoilt(ofBases());
             }
             return spoilt(other());
+        }
+
+        /** An operator that kills a polynomial with many terms, and a multiple of it. */
+        private void denseKernel() {
+            int s = random.nextInt(6);
+            int t = (s + 1) % 6;
+            queue.add(new int[] {2, s, s, 0, s, 0});
+            queue.add(new int[] {11, 0, s, 0});
+            int top = 2 + random.nextInt(5);
+            for (int n = 0; n <= top; n++) {
+                queue.add(new int[] {9, 0, n, 1 + random.nextInt(10006)});
+            }
+            queue.add(new int[] {13, s, 0});
+            sparse(t, 1 + random.nextInt(3));
+            queue.add(new int[] {3, t, t, s});
+            for (int n : new int[] {top - 1, top, top + 1, 15}) {
+                queue.add(new int[] {12, s, n});
+                queue.add(new int[] {12, t, n});
+            }
         }
 
         /** Random operators soon make the whole algebra; these have a right factor or a killed polynomial in common. */

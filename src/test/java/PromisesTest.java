@@ -438,6 +438,17 @@ public final class PromisesTest {
         due("nothing is altered", w.digest(), before);
         due("kernel of x^12 to 15", with("x^12").kernel(0, 15), 0);
         due("kernel of x^11 d - 15 x^10 to 15", with("x^11*d-15*x^10").kernel(0, 15), 1);
+        WeylWords v = new WeylWords();
+        int[] dense = {3, -7, 11, 5, -2, 1};
+        for (int n = 0; n < dense.length; n++) {
+            v.puts(0, n, dense[n]);
+        }
+        v.kills(0, 0);
+        due("kernel of what kills a quintic to 4", v.kernel(0, 4), 0);
+        due("kernel of what kills a quintic to 5", v.kernel(0, 5), 1);
+        read(v, 1, "d^2*x^2-d");
+        v.times(2, 1, 0);
+        due("kernel of a multiple to 15", v.kernel(2, 15), 1);
         error(w, "kernel(6, 0)", x -> x.kernel(6, 0), BAD);
         error(w, "kernel(-1, 0)", x -> x.kernel(-1, 0), BAD);
         error(w, "kernel(0, 16)", x -> x.kernel(0, 16), BAD);
