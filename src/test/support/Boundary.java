@@ -333,8 +333,16 @@ final class Boundary {
             states.add(older.get(k + 1));
         }
         due("the stored states after " + name, storedStates(tried).toString(), states.toString());
-        due("reads(0) after " + name, tried.reads(0), untried.reads(0));
-        due("the text after " + name, tried.picture(), untried.picture());
+        Probe again = maker.get();
+        call.on(again);
+        due("the text after " + name, readText(again), readText(maker.get()));
+    }
+
+    /** What the text reads as, by order 0. */
+    private static String readText(Probe p) {
+        p.order(0);
+        int answer = p.reads(3);
+        return answer + ": " + p.text(3);
     }
 
     /** An argument's range: its ends are no errors; what lies right outside of it, and far outside, is BAD. */
@@ -361,7 +369,7 @@ final class Boundary {
 
     // ---- sentences
 
-    /** The checks that follow are for a sentence of a promise, or of the description if the number is 0. */
+    /** The checks that follow are for a sentence of a promise, or for one that stands before the promises if the number is 0. */
     static void sentence(int number, String text) {
         promise = number;
         sentence = text;
@@ -390,6 +398,12 @@ final class Boundary {
     private static void compareWithDocument(int first, int last) throws Exception {
         String document = Files.readString(Path.of(DOCUMENT)).replace("`", "");
         String[] parts = document.split("(?m)^## ");
+        String beforePromises = plain(document.substring(0, Math.max(0, document.indexOf("## Promise "))));
+        for (String text : namedOf(0)) {
+            if (!beforePromises.contains(text)) {
+                complain("the document does not say, before its promises, '" + text + "'");
+            }
+        }
         for (String part : parts) {
             int line = part.indexOf('\n');
             String heading = line < 0 ? part : part.substring(0, line);
@@ -397,13 +411,6 @@ final class Boundary {
                 int number = Integer.parseInt(heading.substring(8, heading.indexOf(':')));
                 if (number >= first && number <= last) {
                     compareSentences(number, sentencesOf(part));
-                }
-            } else if (heading.startsWith("Description")) {
-                String whole = plain(part);
-                for (String text : namedOf(0)) {
-                    if (!whole.contains(text)) {
-                        complain("the description does not say '" + text + "'");
-                    }
                 }
             }
         }
