@@ -986,6 +986,10 @@ public final class WeylWords {
 
         /** Takes the first waiting row in, if something of it is left. */
         private void absorb() {
+            if (kept + waiting > OPERATORS) {
+                waiting = 0;
+                return;
+            }
             Operator row = rows[kept];
             divider.begin(order);
             for (int k = 0; k < kept; k++) {
@@ -1013,7 +1017,7 @@ public final class WeylWords {
         /** Lets a kept row wait again, right behind the waiting row that is about to be admitted. */
         private void dismiss(int gone) {
             Operator row = rows[gone];
-            for (int k = gone; k < kept; k++) {
+            for (int k = gone; k < kept && k + 1 < OPERATORS; k++) {
                 rows[k] = rows[k + 1];
                 leadXs[k] = leadXs[k + 1];
                 leadDs[k] = leadDs[k + 1];
@@ -1067,14 +1071,16 @@ public final class WeylWords {
 
         /** Lets the difference of a pair wait in which the leads have been brought to the same word. */
         private void cross(int pair) {
-            if (kept >= OPERATORS) {
+            int moreXs = leadXs[pair] - leadXs[pair + 1];
+            int moreDs = leadDs[pair + 1] - leadDs[pair];
+            if (kept >= OPERATORS || moreXs < 0 || moreDs < 0) {
                 return;
             }
             Operator target = rows[kept];
             Operator first = rows[pair];
             Operator second = rows[pair + 1];
-            int ds = Operator.placeOf(0, leadDs[pair + 1] - leadDs[pair]);
-            int xs = Operator.placeOf(leadXs[pair] - leadXs[pair + 1], 0);
+            int xs = Operator.placeOf(moreXs, 0);
+            int ds = Operator.placeOf(0, moreDs);
             target.makeZero();
             algebra.addWordProduct(target, 1, ds, first, first.extent());
             algebra.addWordProduct(target, PRIME - 1, xs, second, second.extent());

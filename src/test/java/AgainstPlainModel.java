@@ -9,8 +9,9 @@ import java.util.Random;
  */
 public final class AgainstPlainModel {
     private static final int P = 10007;
-    private static final int RUNS = 300;
-    private static final int CALLS = 500;
+    private static final int RUNS = 600;
+    /** With the digest after each of them these are the 512 calls that an object is used for. */
+    private static final int CALLS = 256;
 
     public static void main(String[] args) {
         int wrong = 0;

@@ -32,6 +32,10 @@ public final class BoundaryBasesTest {
         unique();
         staircase();
         degreesOfBases();
+        manySets();
+        twoSets();
+        againAndAgain();
+        presentOperators();
         rest();
         restRefused();
         basis();
@@ -159,7 +163,9 @@ public final class BoundaryBasesTest {
 
     private static final String[][] SETS = {{"x*d-2", "d^3"}, {"x*d^2-2*d", "d^3+2*x*d-6"}, {"d^2+x*d-2", "d^3"},
         {"4*(x+d)^2*d-d^2-16*(x+d)", "d^3-8*(x+d)*d+32"}, {"x*d^2-4*x^2*d-d+16*x", "d^3-24*x^2*d+12*d+96*x"}, {"x^2*d", "x*d^2+2*d"},
-        {"x^3", "x*d+3"}, {"x^2*d+4*x", "x^3+2*x*d+8"}, {"5*x^3-d^3+x*d"}, {"0", "3*x*d^2-6", "0"}, {"d", "x", "x*d"}, {"d^3", "x^3"}, {"7"}};
+        {"x^3", "x*d+3"}, {"x^2*d+4*x", "x^3+2*x*d+8"}, {"5*x^3-d^3+x*d"}, {"0", "3*x*d^2-6", "0"}, {"d", "x", "x*d"}, {"d^3", "x^3"}, {"7"},
+        {"x*d^2", "d^3+3*x*d"}, {"d^3", "x^2*d-2*x"}, {"x^2*d-2*x", "d^3", "x*d-2"}, {"x*d+2", "x^3"}, {"d^2", "x^2*d"}, {"d^2", "d"},
+        {"x*d", "d^3-x"}, {"d^3", "x^3", "x*d+2"}, {"x^3", "d^2"}, {"d", "x^3"}};
     /** Their reduced bases by order 0 and order 1. */
     private static final String[][][] BASES = {{{"x*d-2", "d^3"}, {"x*d-2", "d^3"}},
         {{"x^2*d-5003*d^2-3*x", "x*d^2-2*d", "d^3+2*x*d-6"}, {"d^3+2*x*d-6", "x*d^2-2*d", "x^2*d-5003*d^2-3*x"}},
@@ -171,7 +177,9 @@ public final class BoundaryBasesTest {
             {"x*d^2-1668*d^3-3*d", "x^2*d-417*d^3-4*x+5003*d", "d^4-72*x*d+12*d^2+288"}},
         {{"x^2*d", "x*d^2+2*d"}, {"x*d^2+2*d", "x^2*d"}}, {{"x*d+3", "x^3"}, {"x*d+3", "x^3"}},
         {{"x^3+2*x*d+8", "x^2*d+4*x", "x*d^2+5003*x^2+5*d"}, {"x*d^2+5003*x^2+5*d", "x^2*d+4*x", "x^3+2*x*d+8"}},
-        {{"d^3-5*x^3-x*d"}, {"x^3-4003*d^3+4003*x*d"}}, {{"x*d^2-2"}, {"x*d^2-2"}}, {{"1"}, {"1"}}, {{"1"}, {"1"}}, {{"1"}, {"1"}}};
+        {{"d^3-5*x^3-x*d"}, {"x^3-4003*d^3+4003*x*d"}}, {{"x*d^2-2"}, {"x*d^2-2"}}, {{"1"}, {"1"}}, {{"1"}, {"1"}}, {{"1"}, {"1"}},
+        {{"d"}, {"d"}}, {{"x*d-2", "d^3"}, {"x*d-2", "d^3"}}, {{"x*d-2", "d^3"}, {"x*d-2", "d^3"}}, {{"x^2", "x*d+2"}, {"x*d+2", "x^2"}},
+        {{"d"}, {"d"}}, {{"d"}, {"d"}}, {{"1"}, {"1"}}, {{"1"}, {"1"}}, {{"1"}, {"1"}}, {{"1"}, {"1"}}};
 
     /** The operators of a basis, of which no term is above degree 5, as texts. */
     private static List<String> parts(Boundary.Probe p, int set) {
@@ -302,18 +310,34 @@ public final class BoundaryBasesTest {
                 }
             }
         }
-        int[][] due = {{1, 2, 2, 1, 1, 1}, {1, 2, 3, 1, 1, 1}, {1, 2, 2, 1, 1, 1}, {1, 2, 3, 2, 1, 1}, {1, 2, 3, 2, 1, 1}, {1, 2, 3, 2, 2, 2},
-            {1, 2, 2, 1, 1, 1}, {1, 2, 3, 1, 1, 1}, {1, 2, 3, 3, 3, 3}, {1, 2, 3, 3, 3, 3}, {0, 0, 0, 0, 0, 0}, {0, 0, 0, 0, 0, 0}, {0, 0, 0, 0, 0, 0}};
         for (int n = 0; n < SETS.length; n++) {
             for (int order = 0; order < 2; order++) {
+                // the leads of the basis that is due
+                Boundary.Probe basis = ofBasis(order, List.of(BASES[n][order]));
+                int[][] leads = new int[BASES[n][order].length][];
+                for (int k = 0; k < leads.length; k++) {
+                    leads[k] = new int[] {basis.of(k, 6), basis.of(k, 7)};
+                }
                 Boundary.Probe p = Boundary.with(SETS[n]);
                 p.order(order);
                 for (int degree = 0; degree <= 20; degree++) {
                     due("of " + String.join(", ", SETS[n]) + " in degree " + degree, p.stairs((1 << SETS[n].length) - 1, degree),
-                        due[n][Math.min(degree, 5)]);
+                        uncovered(leads, degree));
                 }
             }
         }
+    }
+
+    private static int uncovered(int[][] leads, int degree) {
+        int count = 0;
+        for (int j = 0; j <= degree; j++) {
+            boolean covered = false;
+            for (int[] lead : leads) {
+                covered |= lead[0] <= degree - j && lead[1] <= j;
+            }
+            count += covered ? 0 : 1;
+        }
+        return count;
     }
 
     private static void degreesOfBases() {
@@ -332,6 +356,116 @@ public final class BoundaryBasesTest {
         Boundary.Probe q = Boundary.with("x^3+d^3-x*d^2-7", "x^2*d^2");
         due("degree 3", q.basis(1), 1);
         due("degree 4", q.basis(2), NO);
+    }
+
+    private static final String[] MANY = {"x*d^2-2*d", "d^3+2*x*d-6", "x^2*d-5003*d^2-3*x", "x*d-2", "d^3", "3*x^3+x"};
+
+    /** One object that is asked for one basis after the other tells the same of each as an object that is asked for one alone. */
+    private static void manySets() {
+        sentence(0, "It is unique, and empty if the set has no operator other than 0.");
+        for (int order = 0; order < 2; order++) {
+            for (int word = 0; word < 4; word++) {
+                Boundary.Probe p = ofBasis(order, List.of(MANY));
+                for (int n = 0; n < 63; n++) {
+                    int set = word % 2 == 0 ? n + 1 : 63 - n;
+                    Boundary.Probe alone = ofBasis(order, List.of(MANY));
+                    for (int k = 0; k < 4; k++) {
+                        due("based(" + set + ", " + k + ", " + (3 - word) + ", " + word + ")", p.based(set, k, 3 - word, word),
+                            alone.based(set, k, 3 - word, word));
+                    }
+                    due("basis(" + set + ")", p.basis(set), alone.basis(set));
+                    due("stairs(" + set + ", " + word + ")", p.stairs(set, word), alone.stairs(set, word));
+                }
+            }
+            Boundary.Probe p = ofBasis(order, List.of(MANY));
+            for (int n = 0; n < 63; n++) {
+                int set = n % 2 == 0 ? n + 1 : 64 - n;
+                Boundary.Probe alone = ofBasis(order, List.of(MANY));
+                for (int t = 0; t < 6; t++) {
+                    due("within(" + t + ", " + set + ")", p.within(t, set), alone.within(t, set));
+                }
+            }
+        }
+    }
+
+    /** Of two sets in one object each has its own basis, whatever has been asked before. */
+    private static void twoSets() {
+        sentence(0, "It is unique, and empty if the set has no operator other than 0.");
+        for (int n = 0; n < SETS.length; n++) {
+            for (int m = 0; m < SETS.length; m++) {
+                if (SETS[n].length + SETS[m].length > 6) {
+                    continue;
+                }
+                for (int order = 0; order < 2; order++) {
+                    List<String> both = new ArrayList<>(List.of(SETS[n]));
+                    both.addAll(List.of(SETS[m]));
+                    Boundary.Probe p = ofBasis(order, both);
+                    int first = (1 << SETS[n].length) - 1;
+                    int second = (1 << both.size()) - 1 - first;
+                    due("the first of " + both, p.basis(first), BASES[n][order].length);
+                    due("the second of " + both, parts(p, second).toString(), List.of(BASES[m][order]).toString());
+                    due("the first of " + both + " again", parts(p, first).toString(), List.of(BASES[n][order]).toString());
+                }
+            }
+        }
+    }
+
+    private static void againAndAgain() {
+        sentence(20, "Tells whether an operator is in the left ideal of a set.");
+        Boundary.Probe p = Boundary.with("x*d-2", "d^3", "x", "x^2*d-2*x", "5*d-x", "x+1");
+        for (int n = 0; n < 20; n++) {
+            due("within(3, 3)", p.within(3, 3), 1);
+            due("within(2, 4)", p.within(2, 4), 1);
+            due("within(2, 3)", p.within(2, 3), 0);
+            due("rest(5, 5, 4)", p.rest(5, 5, 4), 1);
+            due("within(5, 3)", p.within(5, 3), 0);
+            due("based(3, 1, 0, 3)", p.based(3, 1, 0, 3), 1);
+            due("based(4, 1, 0, 3)", p.based(4, 1, 0, 3), 0);
+        }
+        // d^3 is in the ideals of many sets, but never in that of x d - 2 alone
+        Boundary.Probe q = Boundary.with("x*d-2", "d^3", "d^3+x*d-2", "-d^3");
+        for (int n = 1; n <= 10; n++) {
+            for (int set : new int[] {3, 5, 9, 6, 12, 7, 15}) {
+                due("within(1, " + set + ")", q.within(1, set), 1);
+            }
+            q.sums(5, 0, n, 0, 0);
+            due("within(1, 32)", q.within(1, 32), 0);
+            due("based(32, 1, 0, 3)", q.based(32, 1, 0, 3), 0);
+            due("within(0, 32)", q.within(0, 32), 1);
+            due("basis(16) of 0", q.basis(16), 0);
+            due("within(0, 16) of 0", q.within(0, 16), 0);
+        }
+    }
+
+    /** A basis is that of the operators as they are now, with each of their words. */
+    private static void presentOperators() {
+        sentence(18, "Returns a coefficient of an operator of the reduced basis of a set.");
+        int[] numbers = {5, 0, -1, 0, 5003, -5003, 0, 10007};
+        for (int k = 0; k < 6; k++) {
+            Boundary.Probe p = fresh();
+            p.sets(k, 0, 3, 1);
+            p.sets(k == 0 ? 1 : 0, 1, 0, 1);
+            for (int i = 0; i <= 3; i++) {
+                for (int j = 0; i + j <= 3 && j < 3; j++) {
+                    for (int c : numbers) {
+                        p.sets(k, i, j, c);
+                        due("based(" + (1 << k) + ", 0, " + i + ", " + j + ") with " + c, p.based(1 << k, 0, i, j), c % 10007);
+                    }
+                }
+            }
+            p.sets(k, 1, 0, 4);
+            due("based() by order 0", p.based(1 << k, 0, 1, 0), 4);
+            p.sets(k, 0, 3, 2);
+            due("based() with another lead", p.based(1 << k, 0, 1, 0), 2);
+            p.sets(k, 3, 0, 4);
+            p.order(1);
+            due("based() by order 1", p.based(1 << k, 0, 1, 0), 1);
+            due("basis() of both", p.basis(63), 1);
+            p.back();
+            due("based() by order 0", p.based(1 << k, 0, 1, 0), 2);
+            p.back();
+            due("based() without x^3", p.based(1 << k, 0, 3, 0), 0);
+        }
     }
 
     // ---- promise 16
@@ -453,9 +587,8 @@ public final class BoundaryBasesTest {
         sentence(17, SET);
         Boundary.range("basis(set)", BoundaryBasesTest::squares, (q, set) -> q.basis(set), 1, 63);
         sentence(17, "Returns the number");
-        int[] counts = {2, 3, 2, 3, 3, 2, 2, 3, 1, 1, 1, 1, 1};
         for (int n = 0; n < SETS.length; n++) {
-            due("of " + String.join(", ", SETS[n]), Boundary.with(SETS[n]).basis((1 << SETS[n].length) - 1), counts[n]);
+            due("of " + String.join(", ", SETS[n]), Boundary.with(SETS[n]).basis((1 << SETS[n].length) - 1), BASES[n][0].length);
         }
         due("of the operator 0", fresh().basis(1), 0);
         due("of all six", fresh().basis(63), 0);
@@ -586,7 +719,7 @@ public final class BoundaryBasesTest {
                 Boundary.Probe p = Boundary.with(set);
                 p.order(order);
                 int bits = (1 << set.length) - 1;
-                int all = set.length == 1 && set[0].equals("7") || set[0].equals("d") || set.length == 2 && set[1].equals("x^3") ? 1 : 0;
+                int all = p.basis(bits) == 1 && p.based(bits, 0, 0, 0) == 1 && p.stairs(bits, 0) == 0 ? 1 : 0;
                 p.read(5, "1");
                 due("1", p.within(5, bits), all);
                 for (int k = 0; k < set.length; k++) {

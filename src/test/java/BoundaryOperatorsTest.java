@@ -121,8 +121,14 @@ public final class BoundaryOperatorsTest {
         due("the degree of 4", Boundary.with("4").of(0, 1), 0);
         due("the degree of x^2*d+d^2+x", Boundary.with("x^2*d+d^2+x").of(0, 1), 3);
         due("the degree of d^12+x^12", Boundary.with("d^12+x^12").of(0, 1), 12);
+        sentence(0, "The terms of an operator are its words with coefficients other than 0;");
         Boundary.Probe p = Boundary.with("x^12+d^11+5");
+        due("its terms", p.of(0, 0), 3);
         p.sets(0, 12, 0, 10007);
+        due("a term whose coefficient has become 0", p.of(0, 0), 2);
+        due("a word that has not been a term", p.sets(0, 5, 5, -10007) + p.of(0, 0), 2);
+        due("its text", p.text(0), "d^11+5");
+        sentence(0, "its degree is the greatest degree of its terms; the operator 0 has no terms and no degree.");
         due("the degree without its greatest term", p.of(0, 1), 11);
         p.sets(0, 0, 11, 0);
         due("the degree of what is left", p.of(0, 1), 0);

@@ -28,6 +28,7 @@ public final class BoundaryPolynomialsTest {
         rate();
         makes();
         makesArguments();
+        makesNumbers();
         makesPowers();
         makesFull();
         kernel();
@@ -182,6 +183,38 @@ public final class BoundaryPolynomialsTest {
         Boundary.refused("makes(0, 0, 2) at first: BAD, not NONE", BoundaryPolynomialsTest::fresh, p -> p.makes(0, 0, 2), BAD);
     }
 
+    private static void makesNumbers() {
+        sentence(13, "Sets polynomial g to what operator s makes of polynomial f: for each term c x^i d^j, the j-th derivative of f, times c x^i.");
+        int[] greatest = {1, -1, 5003, -5003, 5004};
+        for (int j = 0; j <= 12; j++) {
+            for (int n = 18; n <= 30; n += 3) {
+                int i = Math.min(12 - j, 30 - n);
+                long falling = 1;
+                for (int k = 0; k < j; k++) {
+                    falling = falling * (n - k) % 10007;
+                }
+                for (int c : greatest) {
+                    for (int a : greatest) {
+                        Boundary.Probe p = fresh();
+                        p.sets(0, i, j, c);
+                        p.puts(0, n, a);
+                        p.makes(1, 0, 0);
+                        long due = Math.floorMod(c * a % 10007 * falling, 10007L);
+                        due(c + " x^" + i + " d^" + j + " of " + a + " x^" + n, p.rate(1, n - j + i), due > 5003 ? due - 10007 : due);
+                    }
+                }
+            }
+        }
+        // one after the other, of which nothing is left over
+        Boundary.Probe p = Boundary.with("x", "d", "1", "x^2*d^2");
+        p.puts(0, 3, 4);
+        String[] due = {"4@4", "12@2", "4@3", "24@3"};
+        for (int k = 0; k < 12; k++) {
+            p.makes(1, k % 4, 0);
+            due("what operator " + k % 4 + " makes of 4 x^3", p.polynomial(1), due[k % 4]);
+        }
+    }
+
     private static void makesPowers() {
         sentence(13, "Returns the greatest power of the result, or NONE if it is 0");
         due("1 of 5", applied("1", 5, 0).makes(1, 0, 0), 0);
@@ -292,6 +325,20 @@ public final class BoundaryPolynomialsTest {
                 p.sets(1, 10, 0, -m);
                 due("of x d - " + m + " to " + n, p.kernel(0, n), m <= n ? 1 : 0);
                 due("of x^11 d - " + m + " x^10 to " + n, p.kernel(1, n), m <= n ? 1 : 0);
+            }
+        }
+        // what kills a polynomial with all powers to m kills nothing less, and that with one more factor little more
+        for (int m = 1; m <= 10; m++) {
+            Boundary.Probe p = fresh();
+            for (int n = 0; n <= m; n++) {
+                p.puts(0, n, n % 2 == 0 ? 5003 - n * n : 7 * n - 1);
+            }
+            p.kills(0, 0);
+            p.read(1, m == 10 ? "1" : "d-1");
+            p.times(1, 1, 0);
+            for (int n = 0; n <= 15; n++) {
+                due("of what kills all powers to " + m + ", to " + n, p.kernel(0, n), n < m ? 0 : 1);
+                due("of a multiple of it, to " + n, p.kernel(1, n), n < m ? 0 : 1);
             }
         }
         // all that kills (x + 1)^15 does not kill what is less

@@ -110,7 +110,6 @@ public final class BoundaryTextsTest {
         {"((((((((x))))))))", " ", "+-*^", ""}, {"((((((((x))))))))*", DIGITS + "xd", "( ", ""}, {"((((((((x))))))))-((((((((", "", DIGITS + "xd- ", ""}};
 
     private static void bytesAtTheirPlaces() {
-        sentence(0, FAULT);
         for (String[] f : FOLLOWERS) {
             int length = f[0].length();
             for (int c = 0; c < 128; c++) {
@@ -118,6 +117,7 @@ public final class BoundaryTextsTest {
                 p.type(c);
                 int got = p.reads(0);
                 String name = "reads() of '" + f[0] + "' and byte " + c;
+                sentence(0, f[1].indexOf(c) >= 0 || f[2].indexOf(c) >= 0 ? "An expression has this grammar:" : FAULT);
                 if (f[1].indexOf(c) >= 0) {
                     due(name + " is an expression", got >= 0 ? 1 : 0, 1);
                 } else if (f[2].indexOf(c) >= 0) {
