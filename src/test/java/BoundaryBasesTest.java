@@ -36,6 +36,8 @@ public final class BoundaryBasesTest {
         twoSets();
         againAndAgain();
         presentOperators();
+        oneWordEach();
+        alikeOperators();
         rest();
         restRefused();
         basis();
@@ -466,6 +468,72 @@ public final class BoundaryBasesTest {
             p.back();
             due("based() without x^3", p.based(1 << k, 0, 3, 0), 0);
         }
+    }
+
+    /** Two operators of one word each: whichever words and numbers they have, each has its own basis. */
+    private static void oneWordEach() {
+        sentence(18, "Returns a coefficient of an operator of the reduced basis of a set.");
+        for (int k = 0; k < 6; k++) {
+            for (int m = 0; m < 6; m++) {
+                for (int word = 0; m != k && word < 10; word++) {
+                    eachOther(k, m, X_OF_WORD[word], D_OF_WORD[word]);
+                }
+            }
+        }
+    }
+
+    private static final int[] X_OF_WORD = {0, 1, 0, 2, 1, 0, 3, 2, 1, 0};
+    private static final int[] D_OF_WORD = {0, 0, 1, 0, 1, 2, 0, 1, 2, 3};
+
+    private static void eachOther(int k, int m, int i, int j) {
+        Boundary.Probe p = fresh();
+        p.sets(k, i, j, 1);
+        for (int word = 0; word < 10; word++) {
+            String words = "x^" + i + " d^" + j + " in " + k + " and the word " + word + " in " + m;
+            p.sets(m, X_OF_WORD[word], D_OF_WORD[word], 1);
+            due("the basis of " + words, p.based(1 << k, 0, i, j), 1);
+            due("the basis of " + words + ", the second", p.based(1 << m, 0, X_OF_WORD[word], D_OF_WORD[word]), 1);
+            due("the basis of " + words + ", the first again", p.based(1 << k, 0, i, j), 1);
+            p.sets(m, X_OF_WORD[word], D_OF_WORD[word], 0);
+            due("the second, which is 0 again", p.basis(1 << m), 0);
+        }
+    }
+
+    private static final String ALL_WORDS = "1+x+d+x^2+x*d+d^2+x^3+x^2*d+x*d^2+d^3";
+
+    /** An operator outside of a set is none of it, also if it has the coefficient 1 everywhere, or 0. */
+    private static void alikeOperators() {
+        sentence(17, "Returns the number of operators in the reduced basis of a set, for the present order.");
+        for (int m = 1; m < 6; m++) {
+            for (int first = 0; first < 2; first++) {
+                Boundary.Probe p = Boundary.with("x*d");
+                p.read(m, ALL_WORDS);
+                for (int n = 0; n < 4; n++) {
+                    boolean both = (n + first) % 2 == 0;
+                    int set = both ? 1 | 1 << m : 1;
+                    due("within(" + m + ", " + set + ")", p.within(m, set), both ? 1 : 0);
+                    due("basis(" + (1 << m) + ")", p.basis(1 << m), 1);
+                }
+                p.sums(m, m, 0, m, 0);
+                due("within(0, " + (1 << m) + ") of 0", p.within(0, 1 << m), 0);
+                due("basis(" + (1 | 1 << m) + ") with 0", p.basis(1 | 1 << m), 1);
+            }
+        }
+        Boundary.Probe p = fresh();
+        p.typed(ALL_WORDS);
+        for (int s = 0; s < 6; s++) {
+            p.reads(s);
+        }
+        due("basis(63) of six times the same", p.basis(63), 1);
+        due("its lead", p.based(63, 0, 0, 3), 1);
+        due("its least term", p.based(63, 0, 0, 0), 1);
+        for (int s = 0; s < 6; s++) {
+            p.sums(s, s, 0, s, 0);
+        }
+        p.sets(0, 1, 0, 2);
+        due("basis(63) without any of these coefficients", p.basis(63), 1);
+        due("d^3 in it", p.based(63, 0, 0, 3), 0);
+        due("x in it", p.based(63, 0, 1, 0), 1);
     }
 
     // ---- promise 16
