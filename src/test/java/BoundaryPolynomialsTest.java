@@ -341,6 +341,15 @@ public final class BoundaryPolynomialsTest {
                 due("of a multiple of it, to " + n, p.kernel(1, n), n < m ? 0 : 1);
             }
         }
+        // x is made c times what 1 is made, so that 1 is taken away from it any number of times
+        for (String c : new String[] {"+0", "+1", "-1", "+2", "-2", "+5003", "-5003"}) {
+            String operator = "(x+1)*((x" + c + ")*d-1)";
+            Boundary.Probe p = Boundary.with(operator);
+            due("of " + operator + " to 0", p.kernel(0, 0), 0);
+            for (int n = 1; n <= 15; n++) {
+                due("of " + operator + " to " + n, p.kernel(0, n), 1);
+            }
+        }
         // all that kills (x + 1)^15 does not kill what is less
         Boundary.Probe p = Boundary.with("x*d+d-15", "(x*d+d-15)*(x*d+d-14)", "d-x", "d+1");
         for (int n = 0; n <= 15; n++) {
