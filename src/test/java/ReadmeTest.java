@@ -1,17 +1,11 @@
-import java.io.ByteArrayOutputStream;
-import java.io.PrintStream;
 import java.lang.reflect.Field;
 import java.lang.reflect.Modifier;
-import java.net.URL;
-import java.net.URLClassLoader;
 import java.nio.charset.StandardCharsets;
 import java.nio.file.Files;
 import java.nio.file.Path;
 import java.util.regex.Matcher;
 import java.util.regex.Pattern;
 import java.util.stream.Stream;
-import javax.tools.JavaCompiler;
-import javax.tools.ToolProvider;
 
 /** README.md: its program prints what it says, and it names each call, each error, and each test of the project. */
 public final class ReadmeTest {
@@ -42,19 +36,16 @@ public final class ReadmeTest {
         return found.find() ? found.group(1) : "";
     }
 
+    /** Compiles and runs the program by the same two commands as a reader of the page. */
     private static void program(String readme) throws Exception {
         Path directory = Files.createTempDirectory("readme");
         try {
             Path source = directory.resolve("Try.java");
             Files.writeString(source, block(readme, "java"));
-            JavaCompiler compiler = ToolProvider.getSystemJavaCompiler();
-            String path = System.getProperty("java.class.path");
-            int answer = compiler.run(null, null, null, "-cp", path, "-d", directory.toString(), source.toString());
-            check(answer == 0, "its program cannot be compiled");
-            if (answer == 0) {
-                String printed = printed(directory);
-                check(printed.equals(block(readme, "text")), "its program prints\n" + printed);
-            }
+            String compiled = answer("javac", "-d", directory.toString(), "src/main/java/WeylWords.java", source.toString());
+            check(compiled.isEmpty(), "its program is not compiled: " + compiled);
+            String printed = answer("java", "-cp", directory.toString(), "Try");
+            check(printed.equals(block(readme, "text")), "its program prints\n" + printed);
         } finally {
             try (Stream<Path> files = Files.list(directory)) {
                 for (Path file : (Iterable<Path>) files::iterator) {
@@ -65,16 +56,12 @@ public final class ReadmeTest {
         }
     }
 
-    private static String printed(Path directory) throws Exception {
-        ByteArrayOutputStream bytes = new ByteArrayOutputStream();
-        PrintStream before = System.out;
-        try (URLClassLoader loader = new URLClassLoader(new URL[] {directory.toUri().toURL()})) {
-            System.setOut(new PrintStream(bytes, true, StandardCharsets.UTF_8));
-            loader.loadClass("Try").getMethod("main", String[].class).invoke(null, (Object) new String[0]);
-        } finally {
-            System.setOut(before);
-        }
-        return bytes.toString(StandardCharsets.UTF_8).replace(System.lineSeparator(), "\n");
+    /** What a command prints, and its exit code if that is not 0; its complaints are shown where the test's are. */
+    private static String answer(String... command) throws Exception {
+        Process process = new ProcessBuilder(command).redirectError(ProcessBuilder.Redirect.INHERIT).start();
+        String printed = new String(process.getInputStream().readAllBytes(), StandardCharsets.UTF_8);
+        int code = process.waitFor();
+        return printed.replace(System.lineSeparator(), "\n") + (code == 0 ? "" : "exit code " + code);
     }
 
     /** Each method stands in the table with the names of its arguments, and is marked there if it is a change. */
